@@ -716,7 +716,8 @@ public final class SealedBoard {
         }
 
         long openTo(int side) {
-            return Sets.ALL & ~walls() & ~doorsOf(otherSide(side));
+            long shut = side == 0 ? row[DOORS + 1] : row[DOORS];
+            return Sets.ALL & ~row[WALLS] & ~shut;
         }
 
         int coinsOf(int side) {

@@ -2,7 +2,10 @@ import java.util.ArrayList;
 import java.util.List;
 import java.util.Random;
 
-/** Long runs of calls, made by chance from fixed seeds, on SealedBoard and PlainBoard alike. */
+/**
+ * Long runs of calls, made by chance from fixed seeds, on SealedBoard and PlainBoard alike. They ask
+ * far more than the 512 calls that the document promises: nothing in the class counts its calls.
+ */
 final class PlainBoardTests {
 
     private static final int RUNS = 120;

@@ -5,8 +5,7 @@ import java.util.regex.Pattern;
 /**
  * Runs calls on a new object that are written as the examples of the document are: behind each
  * call "=" and its result, or "throws" and the name of an exception, and a semicolon between two
- * calls. text("..") appends all characters of a text; its result is the new length. n times(..)
- * is not known: repeat() makes such runs.
+ * calls. text("..") appends all characters of a text; its result is the new length.
  */
 final class Script {
 

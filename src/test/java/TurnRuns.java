@@ -12,7 +12,7 @@ final class TurnRuns {
             "lay(0, 0, 13) = 1; lay(0, 1, 3) = 2; lay(1, 2, 14) = 1; lay(1, 3, 35) = 2; move(3, 15) = 1;"
             + " square(14, 0) = 2; square(14, 1) = 1; square(14, 2) = 2; account(4) = 5; account(5) = 3;"
             + " account(1) = 1; account(2) = 1; account(6) = 1; account(7) = 1; account(8) = 0;"
-            + " picture(3) = .; picture(15) = I; square(3, 1) = -1"},
+            + " picture(3) = .; picture(15) = I; square(3, 1) = -1; square(3, 2) = -1"},
         {"6", "three captures at once, and neither one without a piece behind it nor one of the side",
             "lay(0, 0, 20) = 1; lay(0, 0, 12) = 2; lay(0, 0, 16) = 3; lay(0, 0, 2) = 4; lay(1, 0, 13) = 1;"
             + " lay(1, 1, 15) = 2; lay(1, 2, 8) = 3; lay(1, 0, 35) = 4; captures(20, 14) = 3; move(20, 14) = 3;"
@@ -59,6 +59,17 @@ final class TurnRuns {
             + " door(1) = 0; move(35, 34) = 0; move(0, 1) = 0; picture(1) = U; square(1, 3) = 1; square(1, 1) = 0;"
             + " move(18, 0) = 1; square(1, 0) = 2; square(1, 1) = 0; square(1, 2) = 0; square(1, 3) = 0;"
             + " account(3) = 0; account(2) = 1; account(5) = 5; account(0) = 1; rooms(0) = 1"},
+        {"6", "a piece of side 1 is captured in its door, too",
+            "lay(1, 0, 0) = 1; lay(1, 0, 30) = 2; wall(1) = 1; lay(0, 0, 2) = 1; lay(0, 1, 18) = 2; lay(0, 0, 35) = 3;"
+            + " move(35, 34) = 0; door(1) = 0; move(34, 35) = 0; move(0, 1) = 0; picture(1) = u; square(1, 3) = 1;"
+            + " move(18, 0) = 1; square(1, 0) = 2; square(1, 1) = 1; square(1, 2) = 0; square(1, 3) = 0; account(3) = 0;"
+            + " account(4) = 5; account(1) = 1; rooms(0) = 1"},
+        {"6", "a door of the other side stops a move",
+            "lay(0, 0, 0) = 1; lay(1, 0, 35) = 1; wall(34) = 1; lay(0, 1, 30) = 2; move(0, 1) = 0; door(34) = 0;"
+            + " canMove(30, 33) = true; canMove(30, 34) = false; move(30, 34) throws UnsupportedOperationException;"
+            + " reason(false) = 3; reason(true) = 34; room(0, 34) throws NoSuchElementException; room(1, 34) = 0;"
+            + " steps(0, 34) throws NoSuchElementException; steps(1, 34) = 1; sealedShare(0) = 0.0; move(30, 33) = 0;"
+            + " move(35, 34) = 0; picture(34) = u"},
         {"6", "the door is left behind",
             "lay(0, 0, 0) = 1; wall(1) = 1; lay(1, 0, 35) = 1; door(1) = 0; move(35, 34) = 0; move(0, 1) = 0;"
             + " move(34, 35) = 0; move(1, 2) = 0; picture(1) = (; square(1, 0) = 3; square(1, 1) = 0;"
@@ -75,6 +86,10 @@ final class TurnRuns {
             "lay(0, 0, 14) = 1; lay(0, 0, 20) = 2; lay(0, 0, 35) = 3; lay(1, 0, 13) = 1; lay(1, 1, 3) = 2;"
             + " move(35, 34) = 0; move(3, 15) = 1; door(14) = 0; square(14, 1) = 0; square(14, 2) = -1;"
             + " move(13, 19) = 0; buy(14) throws UnsupportedOperationException; reason(false) = 4"},
+        {"7", "side 1 buys the wall of a piece that it captured",
+            "lay(0, 0, 14) = 1; lay(0, 0, 35) = 2; lay(1, 0, 13) = 1; lay(1, 1, 3) = 2; move(35, 34) = 0; move(3, 15) = 1;"
+            + " move(34, 35) = 0; door(14) = 2; square(14, 1) = 1; square(14, 2) = -1; picture(14) = ); move(35, 34) = 0;"
+            + " move(13, 14) = 0; picture(14) = u; square(14, 1) = 1; square(14, 2) = 0; square(13, 1) = -1"},
         {"7", "a purchase ends the game if the other side has no move",
             "lay(0, 0, 0) = 1; wall(1) = 1; door(1) = 0; account(8) = 1; account(6) = 1;"
             + " door(7) throws UnsupportedOperationException; reason(false) = 1; reason(true) = 1"},
@@ -104,6 +119,13 @@ final class TurnRuns {
             + " square(14, 0) = 1; square(14, 1) = 0; square(14, 2) = 1; square(14, 3) = 0; account(0) = 3;"
             + " account(2) = 0; account(4) = 0; account(6) = 3; canMove(14, 8) = true; undo() = 5; picture(14) = #;"
             + " square(14, 2) = 1; account(4) = 3"},
+        {"8", "a piece that was bought back leaves nothing behind",
+            "lay(0, 1, 14) = 1; lay(0, 0, 20) = 2; lay(0, 0, 35) = 3; lay(1, 0, 13) = 1; lay(1, 1, 3) = 2;"
+            + " move(35, 34) = 0; move(3, 15) = 1; buy(14) = 0; move(15, 16) = 0; move(14, 8) = 0; square(14, 0) = 0;"
+            + " square(14, 1) = -1; square(14, 2) = -1; picture(14) = .; account(2) = 0"},
+        {"8", "side 1 buys back, too",
+            "lay(1, 0, 14) = 1; lay(1, 0, 20) = 2; lay(0, 0, 13) = 1; lay(0, 1, 3) = 2; move(3, 15) = 1; buy(14) = 1;"
+            + " picture(14) = u; account(1) = 2; account(4) = 5; account(5) = 1; account(7) = 0"},
         {"8", "a runner costs 2, and nothing is captured by buying",
             "lay(0, 0, 14) = 1; lay(0, 0, 20) = 2; lay(0, 0, 35) = 3; lay(0, 0, 2) = 4; lay(1, 0, 13) = 1;"
             + " lay(1, 1, 3) = 2; move(35, 34) = 0; move(3, 15) = 1; move(2, 8) = 0; move(13, 12) = 0; move(34, 35) = 0;"
@@ -171,6 +193,12 @@ final class TurnRuns {
         {"12", "how many pieces a move would capture, whichever turn it is",
             "lay(1, 0, 13) = 1; lay(1, 1, 3) = 2; lay(0, 2, 14) = 1; captures(3, 15) = 1; captures(3, 9) = 0;"
             + " captures(14, 8) = 0; account(0) = 1; account(10) = 3; picture(3) = i"},
+        {"12", "neither a door nor a wall that remembers a piece is one",
+            "lay(0, 0, 13) = 1; lay(0, 1, 3) = 2; lay(1, 2, 14) = 1; lay(1, 0, 35) = 2; wall(12) = 1; move(3, 15) = 1;"
+            + " captures(14, 8) throws NoSuchElementException; canMove(14, 8) throws NoSuchElementException;"
+            + " moves(14) throws NoSuchElementException; worth(14, 8) throws NoSuchElementException; move(35, 34) = 0;"
+            + " door(12) = 2; captures(12, 6) throws NoSuchElementException; canMove(12, 6) throws NoSuchElementException;"
+            + " moves(12) throws NoSuchElementException; move(34, 35) = 0; worth(12, 6) throws NoSuchElementException"},
         {"12", "wrong squares, no piece, a move that cannot be",
             "lay(0, 0, 0) = 1; captures(36, 0) throws IndexOutOfBoundsException;"
             + " captures(0, -1) throws IndexOutOfBoundsException; captures(0, 36) throws IndexOutOfBoundsException;"
