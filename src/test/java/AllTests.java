@@ -4,8 +4,8 @@ import java.util.Set;
 import java.util.TreeSet;
 
 /**
- * Runs all of the project's own tests; ends with exit code 1 if one fails. Its argument is the
- * path of SealedBoard.java.
+ * Runs all of the project's own tests; ends with exit code 1 if one fails. Its arguments are the
+ * path of SealedBoard.java and the path of the document.
  */
 public final class AllTests {
 
@@ -25,6 +25,9 @@ public final class AllTests {
             }
         }
         checks.same("the promises that have runs", PROMISES, promises.size());
+        SentenceTests.run(checks, Path.of(args[1]));
+        RangeTests.run(checks);
+        UnchangedTests.run(checks);
         FaceTests.run(checks);
         SourceTests.run(checks, Path.of(args[0]));
         PlainBoardTests.run(checks);

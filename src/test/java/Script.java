@@ -3,44 +3,65 @@ import java.util.regex.Matcher;
 import java.util.regex.Pattern;
 
 /**
- * Runs calls on a new object that are written as the examples of the document are: behind each
- * call "=" and its result, or "throws" and the name of an exception, and a semicolon between two
- * calls. text("..") appends all characters of a text; its result is the new length.
+ * Runs calls that are written as the examples of the document are: behind each call "=" and its
+ * result, or "throws" and the name of an exception (its end, "Exception", may be left out), and a
+ * semicolon between two calls. Behind a turn can stand "refused 3 12", with the reason and the
+ * detail that are kept then, and behind read() "malformed 4", with the error position.
+ * text("..") appends all characters of a text; its result is the new length.
  */
 final class Script {
 
     private static final Pattern CALL = Pattern.compile(
-            "\\s*(\\w+)\\((\"[^\"]*\"|'.'|[^()\"']*)\\)\\s*(=\\s*(\\S+?)|(throws \\w+))\\s*(;|$)");
+            "\\s*(\\w+)\\((\"[^\"]*\"|'.'|[^()\"']*)\\)\\s*"
+            + "(?:=\\s*(\\S+?)|throws (\\w+?)(?:Exception)?|refused (\\d+) (\\d+)|malformed (\\d+))\\s*(?:;|$)");
 
     private final Checks checks;
     private final String title;
-    private final SealedBoard board = new SealedBoard();
+    private final SealedBoard board;
 
-    private Script(Checks checks, String title) {
+    private Script(Checks checks, String title, SealedBoard board) {
         this.checks = checks;
         this.title = title;
+        this.board = board;
     }
 
-    static void run(Checks checks, String title, String calls) {
-        Script script = new Script(checks, title);
+    /** Runs the calls on a new object, and gives it back. */
+    static SealedBoard run(Checks checks, String title, String calls) {
+        Script script = new Script(checks, title, new SealedBoard());
         Matcher matcher = CALL.matcher(calls);
         int end = 0;
         while (end < calls.trim().length() && matcher.find(end) && matcher.start() == end) {
-            String due = matcher.group(4) != null ? matcher.group(4) : matcher.group(5);
-            script.call(matcher.group(1), matcher.group(2), due);
+            script.call(matcher);
             end = matcher.end();
         }
         checks.same(title + ": the end of the run", calls.trim().length(), Math.min(end, calls.trim().length()));
+        return script.board;
     }
 
     static String repeat(int times, String calls) {
         return calls.repeat(times);
     }
 
-    private void call(String name, String written, String due) {
-        String what = title + ": " + name + "(" + written + ")";
+    private void call(Matcher call) {
+        String name = call.group(1);
+        String written = call.group(2);
+        if (call.group(3) != null) {
+            check(name, written, plain(call.group(3)));
+        } else if (call.group(4) != null) {
+            check(name, written, "throws " + call.group(4) + "Exception");
+        } else if (call.group(5) != null) {
+            check(name, written, "throws UnsupportedOperationException");
+            check("reason", "false", call.group(5));
+            check("reason", "true", call.group(6));
+        } else {
+            check(name, written, "throws IllegalArgumentException");
+            check("errorPosition", "", call.group(7));
+        }
+    }
+
+    private void check(String name, String written, String due) {
         String got = name.equals("text") ? appendAll(written) : answer(name, written);
-        checks.same(what, plain(due), got);
+        checks.same(title + ": " + name + "(" + written + ")", due, got);
     }
 
     private static String plain(String due) {
