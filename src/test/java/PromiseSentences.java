@@ -524,8 +524,7 @@ final class PromiseSentences {
         {"27", "9 for the characters of the input,", "none, one, 60",
             "account(9) = 0; append('x') = 1; account(9) = 1; append(31) throws IllegalArgument; account(9) = 1;"
             + " text(\"" + "x".repeat(59) + "\") = 60; account(9) = 60; clear() = 0; account(9) = 60;"
-            + " read() malformed 0;"
-            + " account(9) = 0"},
+            + " read() malformed 0; account(9) = 0"},
         {"27", "10 for the changes that can be undone", "from none to six",
             "account(10) = 0; clear() = 0; account(10) = 1; clear() = 0; clear() = 0; clear() = 0; clear() = 0;"
             + " account(10) = 5; clear() = 0; account(10) = 6; clear() = 0; account(10) = 6; undo() = 5;"

@@ -29,6 +29,10 @@ final class SentenceTests {
         for (String[] run : PromiseSentences.RUNS) {
             Script.run(checks, "promise " + run[0] + ": " + run[1] + " (" + run[2] + ")", run[3]);
         }
+        if (!Files.isReadable(document)) {
+            System.out.println("not compared: there is no document at " + document);
+            return;
+        }
         SentenceTests tests = new SentenceTests(checks, Files.readString(document));
         tests.compareTerms();
         for (int number = 1; number <= 30; number++) {
