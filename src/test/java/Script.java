@@ -15,9 +15,12 @@ final class Script {
             "\\s*(\\w+)\\((\"[^\"]*\"|'.'|[^()\"']*)\\)\\s*"
             + "(?:=\\s*(\\S+?)|throws (\\w+?)(?:Exception)?|refused (\\d+) (\\d+)|malformed (\\d+))\\s*(?:;|$)");
 
+    private static final int MOST_CALLS = 512;
+
     private final Checks checks;
     private final String title;
     private final SealedBoard board;
+    private int calls;
 
     private Script(Checks checks, String title, SealedBoard board) {
         this.checks = checks;
@@ -35,6 +38,8 @@ final class Script {
             end = matcher.end();
         }
         checks.same(title + ": the end of the run", calls.trim().length(), Math.min(end, calls.trim().length()));
+        // What an object answers after that many calls is free.
+        checks.isTrue(title + ": at most " + MOST_CALLS + " calls", script.calls <= MOST_CALLS);
         return script.board;
     }
 
@@ -77,12 +82,14 @@ final class Script {
         String text = written.substring(1, written.length() - 1);
         String last = "";
         for (char character : text.toCharArray()) {
+            calls++;
             last = Calls.answer(board, "append", character);
         }
         return last;
     }
 
     private String answer(String name, String written) {
+        calls++;
         Method method = Calls.named(SealedBoard.class, name);
         Class<?>[] types = method.getParameterTypes();
         String[] parts = written.isEmpty() ? new String[0]

@@ -393,6 +393,14 @@ final class TermSentences {
             + Script.repeat(14, "move(7, 13) = 0; move(26, 20) = 0; move(13, 7) = 0; move(20, 26) = 0; ")
             + "move(7, 13) = 0; move(26, 20) = 0; move(13, 7) = 0; account(8) = 0; move(20, 8) = 1; account(6) = 60;"
             + " account(8) = 2"},
+        {"otherwise it is over as a draw when 60 turns were taken.", "turn 60 can be a door or a piece",
+            "wall(28) = 1; lay(0, 0, 0) = 1; lay(1, 0, 35) = 1; " + Boards.SHUTTLE + Boards.THREE_MORE
+            + "account(8) = 0; door(28) = 0; account(6) = 60; account(8) = 3; clear() = 2; lay(1, 0, 14) = 1;"
+            + " lay(1, 0, 20) = 2; lay(1, 0, 35) = 3; lay(0, 0, 13) = 1; lay(0, 1, 3) = 2; lay(0, 0, 0) = 3;"
+            + " move(3, 15) = 1; "
+            + Script.repeat(14, "move(35, 34) = 0; move(0, 6) = 0; move(34, 35) = 0; move(6, 0) = 0; ")
+            + "move(35, 34) = 0; move(0, 6) = 0; account(6) = 59; account(8) = 0; buy(14) = 1; account(6) = 60;"
+            + " account(8) = 3; move(6, 0) refused 1 60"},
         {"The turns are counted from the last call of start or clear.", "from clear: 59 turns and 60",
             "lay(0, 0, 0) = 1; lay(1, 0, 35) = 1; move(0, 6) = 0; move(35, 34) = 0; move(6, 0) = 0; account(6) = 3;"
             + " clear() = 2; account(6) = 0; account(7) = 0; lay(0, 0, 0) = 1; lay(1, 0, 35) = 1; " + Boards.SHUTTLE

@@ -6,7 +6,8 @@ import java.util.Set;
 /**
  * Whether calls that throw, and calls that only answer a question, leave the state unchanged: each
  * is called in several states, and what the object tells from then on is compared with what an
- * object tells that was not called.
+ * object tells that was not called. It asks more than the 512 calls that the document
+ * promises: nothing in the class counts its calls.
  */
 final class UnchangedTests {
 
