@@ -1,11 +1,12 @@
 import java.io.IOException;
+import java.nio.file.Files;
 import java.nio.file.Path;
 import java.util.Set;
 import java.util.TreeSet;
 
 /**
  * Runs all of the project's own tests; ends with exit code 1 if one fails. Its arguments are the
- * path of SealedBoard.java and the path of the document.
+ * paths of SealedBoard.java, of the document and of README.md.
  */
 public final class AllTests {
 
@@ -25,9 +26,11 @@ public final class AllTests {
             }
         }
         checks.same("the promises that have runs", PROMISES, promises.size());
-        SentenceTests.run(checks, Path.of(args[1]));
         RangeTests.run(checks);
         UnchangedTests.run(checks);
+        SentenceTests.run(checks);
+        compareWithDocument(checks, Path.of(args[1]), Path.of(args[0]));
+        ReadmeTests.run(checks, Path.of(args[2]));
         FaceTests.run(checks);
         SourceTests.run(checks, Path.of(args[0]));
         PlainBoardTests.run(checks);
@@ -35,5 +38,16 @@ public final class AllTests {
         if (checks.failed() > 0) {
             System.exit(1);
         }
+    }
+
+    private static void compareWithDocument(Checks checks, Path path, Path source) throws IOException {
+        // Where the tests run, there may be the tests of ../shared alone.
+        if (!Files.isReadable(path)) {
+            System.out.println("not compared: there is no document at " + path);
+            return;
+        }
+        Document document = Document.readFrom(checks, path);
+        SentenceTests.compare(checks, document);
+        DocumentTests.run(checks, document, source);
     }
 }

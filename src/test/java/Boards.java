@@ -8,9 +8,12 @@ final class Boards {
     static final String GATE = "wall(12) = 1; wall(13) = 2; wall(14) = 3; wall(15) = 4; wall(16) = 5;"
             + " wall(17) = 6; lay(0, 0, 11) = 1; lay(1, 0, 35) = 1; door(17) = 0; ";
 
-    /** The longest way that there can be, from square 0 to square 21: a spiral between walls. */
-    static final String SPIRAL = "wall(6) = 1; wall(7) = 2; wall(8) = 3; wall(9) = 4; wall(10) = 5; wall(16) = 6;"
-            + " wall(22) = 7; wall(28) = 8; wall(25) = 9; wall(26) = 10; wall(27) = 11; wall(19) = 12; wall(20) = 13; ";
+    /**
+     * The longest way that there can be, from square 0 to square 29: 23 steps between walls. No way on
+     * six by six squares is longer, if no two of its squares are neighbours but those of one step.
+     */
+    static final String LONGEST_WAY = "wall(6) = 1; wall(7) = 2; wall(8) = 3; wall(9) = 4; wall(10) = 5; wall(15) = 6;"
+            + " wall(19) = 7; wall(23) = 8; wall(26) = 9; wall(27) = 10; wall(28) = 11; wall(30) = 12; ";
 
     /** With a piece of each side on square 0 and on square 35: 56 turns, and all is as before. */
     static final String SHUTTLE = "move(0, 6) = 0; move(35, 34) = 0; move(6, 0) = 0; move(34, 35) = 0; ".repeat(14);

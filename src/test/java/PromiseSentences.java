@@ -333,8 +333,9 @@ final class PromiseSentences {
         {"19",
             "how many squares that are open to a side cannot be reached from its pieces by steps over squares that"
             + " are open to it.", "the longest way there can be",
-            Boards.SPIRAL + "lay(0, 0, 0) = 1; sealedAgain(0) = 0; sealed(0) = 0; sealedAgain(1) = 23; undo() = 5;"
-            + " lay(1, 1, 21) = 1; sealedAgain(1) = 0; sealedAgain(0) = 23"},
+            Boards.LONGEST_WAY + "lay(0, 0, 0) = 1; sealedAgain(0) = 0; sealed(0) = 0; sealedAgain(1) = 24; undo() = 5;"
+            + " lay(1, 1, 29) = 1; sealedAgain(1) = 0; sealedAgain(0) = 24; rooms(0) = 1; room(0, 0) = 0;"
+            + " room(0, 29) = 0"},
         {"19", "Returns the number of squares.", "none, one, all 36, and no square at all",
             "sealedAgain(0) = 36; sealedAgain(1) = 36; " + Boards.walls(35) + "sealedAgain(0) = 1; lay(0, 0, 35) = 1;"
             + " sealedAgain(0) = 0; sealedAgain(1) = 1; undo() = 5; wall(35) = 36; sealedAgain(0) = 0;"
@@ -349,8 +350,9 @@ final class PromiseSentences {
             + " steps(1, 18) = 7; clear() = 2; " + Boards.runners(1, 0, 6, 0) + "lay(0, 0, 7) = 1; steps(0, 0) = 2;"
             + " steps(0, 1) = 1; steps(1, 35) = 5; steps(1, 30) = 5; steps(1, 7) = 1"},
         {"20", "Returns the number of steps.", "none, one, across the board, and the longest way there can be",
-            "lay(0, 0, 0) = 1; steps(0, 0) = 0; steps(0, 1) = 1; steps(0, 35) = 10; clear() = 1; " + Boards.SPIRAL
-            + "lay(1, 0, 0) = 1; steps(1, 21) = 22; steps(1, 15) = 21; steps(1, 35) = 10; steps(1, 12) = 18"},
+            "lay(0, 0, 0) = 1; steps(0, 0) = 0; steps(0, 1) = 1; steps(0, 35) = 10; clear() = 1; "
+            + Boards.LONGEST_WAY + "lay(1, 0, 0) = 1; steps(1, 29) = 23; steps(1, 35) = 22; steps(1, 17) = 7;"
+            + " steps(1, 12) = 14; steps(1, 23) throws NoSuchElement"},
         {"20", NO_SIDE_OR_SQUARE, "one below and one above, each of the two",
             "lay(0, 0, 0) = 1; steps(-1, 0) throws IndexOutOfBounds; steps(2, 0) throws IndexOutOfBounds;"
             + " steps(0, -1) throws IndexOutOfBounds; steps(0, 36) throws IndexOutOfBounds"},
